@@ -222,7 +222,8 @@ public final class ThrownMarks {
             return UNKNOWN;
         }
         today.take(schemes[rule], now);
-        return doesBend(schemes[rule], judge) ? 1 : 0;
+        reach.open(schemes[rule], now, judge);
+        return bettersOwn(judge) ? 1 : 0;
     }
 
     public int bent(int rule) {
@@ -356,8 +357,10 @@ public final class ThrownMarks {
         int ways = 0;
         for (int a = 0; a < now.skaters(); a++) {
             for (int b = 0; b < now.skaters(); b++) {
-                if (today.ahead(a, b)) {
-                    ways += thirdsOf(schemes[rule], a, b);
+                for (int third = 0; third < now.skaters() && today.ahead(a, b); third++) {
+                    if (third != a && third != b && doesTurn(schemes[rule], a, b, third)) {
+                        ways++;
+                    }
                 }
             }
         }
@@ -482,33 +485,28 @@ public final class ThrownMarks {
         return set >= 0 && set < now.judgeSets();
     }
 
-    /** Wants today taken by the same scheme: its places are those that the judge would better. */
-    private boolean doesBend(Scheme scheme, int judge) {
-        boolean open = false;
-        for (int skater = 0; skater < now.skaters(); skater++) {
-            int place = today.placeOf(skater);
-            if (place > 1 && now.ofOneLand(judge, skater)) {
-                if (!open) {
-                    reach.open(scheme, now, judge);
-                    open = true;
-                }
-                if (reach.placeBy(reach.bestRow(skater, place - 1), skater) < place) {
-                    return true;
-                }
-            }
-        }
-        return false;
-    }
-
     private int benders(Scheme scheme) {
         today.take(scheme, now);
         int bits = 0;
         for (int judge = 0; judge < now.judges(); judge++) {
-            if (doesBend(scheme, judge)) {
+            reach.open(scheme, now, judge);
+            if (bettersOwn(judge)) {
                 bits |= 1 << judge;
             }
         }
         return bits;
+    }
+
+    /** Wants today taken by the same scheme for which reach is open. */
+    private boolean bettersOwn(int judge) {
+        for (int skater = 0; skater < now.skaters(); skater++) {
+            int place = today.placeOf(skater);
+            if (place > 1 && now.ofOneLand(judge, skater)
+                    && reach.placeBy(reach.bestRow(skater, place - 1), skater) < place) {
+                return true;
+            }
+        }
+        return false;
     }
 
     private int placeByBloc(Scheme scheme, int set, int skater) {
@@ -516,16 +514,6 @@ public final class ThrownMarks {
         draft.favour(set, skater);
         trial.take(scheme, draft);
         return trial.placeOf(skater);
-    }
-
-    private int thirdsOf(Scheme scheme, int a, int b) {
-        int many = 0;
-        for (int third = 0; third < now.skaters(); third++) {
-            if (third != a && third != b && doesTurn(scheme, a, b, third)) {
-                many++;
-            }
-        }
-        return many;
     }
 
     private boolean doesTurn(Scheme scheme, int a, int b, int third) {
@@ -649,7 +637,7 @@ public final class ThrownMarks {
         }
 
         boolean counts(int judge) {
-            return hasJudge(judge) && (lost & (1 << judge)) == 0;
+            return judge >= 0 && judge < judges && (lost & (1 << judge)) == 0;
         }
 
         /** The judges that count, as bits. */
@@ -884,8 +872,8 @@ public final class ThrownMarks {
 
         int weigh(Scheme scheme, int part, Card card, int skater) {
             switch (scheme.kindOf(part)) {
-                case STRIKE: return struck(card, skater, scheme.strikeOf(part));
-                case MIDDLE: return middle(card, skater);
+                case STRIKE: return sumWithout(scheme.strikeOf(part), sortMarks(card, skater));
+                case MIDDLE: return middleOf(sortMarks(card, skater));
                 case RANKS: return ranks(card, skater);
                 case PAIRS: return pairs(card, skater);
                 default: return weighted(scheme, part, card, skater);
@@ -906,18 +894,10 @@ public final class ThrownMarks {
         int ranks(Card card, int skater) {
             int sum = 0;
             for (int judge = 0; judge < card.judges(); judge++) {
-                if (card.counts(judge)) {
-                    sum += ranksOf(card, judge, skater);
-                }
-            }
-            return sum;
-        }
-
-        private int ranksOf(Card card, int judge, int skater) {
-            int sum = 0;
-            for (int other = 0; other < card.skaters(); other++) {
-                if (other != skater) {
-                    sum += pointsFor(card.markOf(judge, skater) - card.markOf(judge, other));
+                for (int other = 0; other < card.skaters() && card.counts(judge); other++) {
+                    if (other != skater) {
+                        sum += pointsFor(card.markOf(judge, skater) - card.markOf(judge, other));
+                    }
                 }
             }
             return sum;
@@ -933,8 +913,8 @@ public final class ThrownMarks {
             return sum;
         }
 
-        private int struck(Card card, int skater, int k) {
-            int many = sortMarks(card, skater);
+        /** The sum of so many sorted marks without the k least and the k greatest. */
+        private int sumWithout(int k, int many) {
             int sum = 0;
             for (int i = k; i < many - k; i++) {
                 sum += sorted[i];
@@ -942,8 +922,8 @@ public final class ThrownMarks {
             return sum;
         }
 
-        private int middle(Card card, int skater) {
-            int many = sortMarks(card, skater);
+        /** Of an odd number both indices are that of the one in the midst. */
+        private int middleOf(int many) {
             return many == 0 ? 0 : sorted[(many - 1) / 2] + sorted[many / 2];
         }
 
@@ -1054,17 +1034,13 @@ public final class ThrownMarks {
                 card.setLost(judge, paired[part]);
                 if (paired[part]) {
                     layBeside(part, kind == RANKS);
-                } else {
-                    layAlone(scheme, part, judge);
+                    continue;
                 }
-            }
-        }
-
-        private void layAlone(Scheme scheme, int part, int judge) {
-            for (int skater = 0; skater < skaters; skater++) {
-                for (int v = 0; v < MARKS; v++) {
-                    card.give(judge, skater, v);
-                    alone[aloneAt(part, skater, v)] = scale.weigh(scheme, part, card, skater);
+                for (int skater = 0; skater < skaters; skater++) {
+                    for (int v = 0; v < MARKS; v++) {
+                        card.give(judge, skater, v);
+                        alone[aloneAt(part, skater, v)] = scale.weigh(scheme, part, card, skater);
+                    }
                 }
             }
         }
@@ -1135,21 +1111,15 @@ public final class ThrownMarks {
         private int placeNow(int skater) {
             int place = 1;
             for (int other = 0; other < skaters; other++) {
-                if (other != skater && aheadNow(other, skater)) {
+                int lead = 0;
+                for (int part = 0; part < parts && lead == 0; part++) {
+                    lead = worthNow(part, other) - worthNow(part, skater);
+                }
+                if (lead > 0) {
                     place++;
                 }
             }
             return place;
-        }
-
-        private boolean aheadNow(int a, int b) {
-            for (int part = 0; part < parts; part++) {
-                int difference = worthNow(part, a) - worthNow(part, b);
-                if (difference != 0) {
-                    return difference > 0;
-                }
-            }
-            return false;
         }
 
         private int worthNow(int part, int skater) {

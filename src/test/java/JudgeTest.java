@@ -58,6 +58,17 @@ public final class JudgeTest {
         d.due("19 ranks", y.best(0, 0, 3), Due.row("0001"));
         y.lose(0, true);
         d.due("19 what is lost", y.best(0, 0, 3), Due.row("0001"));
+        ThrownMarks z2 = Due.cards(3, "000", "531");
+        for (String rule : new String[] {"P", "R", "W00/P", "W00/R", "W00/W00/P", "W00/M/R", "S3/S2/R", "P/R", "R/P"}) {
+            Due.rule(z2, 1, rule);
+            d.due("19 contrary to the other by " + rule, z2.best(1, 0, 2), rule.contains("M") ? 5 : Due.row("012"));
+            d.due("18 and so the first by " + rule, z2.could(1, 0, 2), 1);
+        }
+        ThrownMarks z3 = Due.cards(3, "000", "531", "531");
+        for (String rule : new String[] {"P", "R", "W000/P", "W000/R"}) {
+            Due.rule(z3, 1, rule);
+            d.due("18 two are more by " + rule, z3.could(1, 0, 2), rule.endsWith("P") ? 3 : 2);
+        }
         d.refused("19 no rule", -1, z -> z.best(3, 0, 0));
         d.refused("19 no judge", -1, z -> z.best(0, 4, 0));
         d.refused("19 no judge -1", -1, z -> z.best(0, -1, 0));

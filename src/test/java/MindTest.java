@@ -75,12 +75,32 @@ public final class MindTest {
         d.due("37 both lean", x.rest(0, 3), 1);
         d.due("37 judge 0 alone: judge 1 would too", x.rest(0, 1), 0);
         d.due("37 judge 1 alone: judge 0 would too", x.rest(0, 2), 0);
+        unlean();
         ThrownMarks y = Due.cards(3, "502");
         y.land(true, 2, 1);
         d.due("37 skater 1 of its land is third", y.place(0, 1), 3);
         d.due("37 and would be first", y.minded(0, 1, 1), 1);
         d.due("37 but its least place is 1 as it is", y.rest(0, 0), 1);
         d.due("37 and stays so", y.rest(0, 1), 1);
+    }
+
+    /** By ranks a judge that gives both skaters of its land as much may do worse than by its marks. */
+    private static void unlean() {
+        ThrownMarks x = Due.cards(3, "540", "035", "000", "505");
+        Due.rule(x, 0, "R");
+        x.land(true, 2, 1);
+        for (int judge = 1; judge < 4; judge++) {
+            x.land(false, judge, 3);
+        }
+        d.due("37 skater 0 by marks", x.worth(0, 0, 0), 4 + 0 + 2 + 3);
+        d.due("37 skater 1 by marks", x.worth(0, 1, 0), 2 + 2 + 2 + 0);
+        d.due("37 skater 2 by marks", x.worth(0, 2, 0), 0 + 4 + 2 + 3);
+        d.due("37 first with 2", x.place(0, 0), 1);
+        d.due("37 second, if judge 0 leans", x.minded(0, 1, 0), 2);
+        d.due("37 so it would not", x.rest(0, 0), 1);
+        d.due("37 and would change back", x.rest(0, 1), 0);
+        d.due("37 it does so whatever judge 2 does", x.rest(0, 4 + 1), 0);
+        d.due("38 the least", x.rests(0, true), 0);
     }
 
     private static void rests() {

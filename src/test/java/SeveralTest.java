@@ -62,6 +62,11 @@ public final class SeveralTest {
         d.due("25 of four that count two and a half", seven.few(0, 1, 1), 24);
         Due.rule(seven, 1, "W9000000/M");
         d.due("25 one of the lost ones", seven.few(1, 1, 1), 1);
+        ThrownMarks all = Due.cards(2, "50", "50", "50", "50", "50", "50", "50");
+        Due.rule(all, 0, "W1111119");
+        d.due("25 one is all", all.few(0, 1, 1), 64);
+        Due.rule(all, 0, "P/W0000001");
+        d.due("25 four by pairs", all.few(0, 1, 1), 15);
         d.refused("25 no rule", -1, z -> z.few(3, 0, 1));
         d.refused("25 no skater", -1, z -> z.few(0, 3, 1));
         d.refused("25 no skater -1", -1, z -> z.few(0, -1, 1));
