@@ -1,0 +1,121 @@
+import java.util.List;
+import java.util.function.Consumer;
+
+/** A state to ask in: how it comes about, and what can be said of it without asking. */
+final class Scene {
+    final String name;
+    final int judges;
+    final int skaters;
+    final int past;
+    final String text;
+    final int[] parts;
+    private final Consumer<Asked> build;
+
+    private Scene(String name, int judges, int skaters, int past, String text, int[] parts, Consumer<Asked> build) {
+        this.name = name;
+        this.judges = judges;
+        this.skaters = skaters;
+        this.past = past;
+        this.text = text;
+        this.parts = parts;
+        this.build = build;
+    }
+
+    /** As it is on this new object. */
+    Asked on(Object fresh) {
+        Asked asked = new Asked(fresh);
+        build.accept(asked);
+        return asked;
+    }
+
+    int rows() {
+        int many = 1;
+        for (int s = 0; s < skaters; s++) {
+            many *= 6;
+        }
+        return many;
+    }
+
+    static final List<Scene> ALL = List.of(
+        new Scene("new", 5, 3, 0, "", new int[] {1, 1, 1}, a -> { }),
+        new Scene("least", 1, 1, 0, "M", new int[] {1, 1, 1}, Scene::least),
+        new Scene("some", 4, 3, 1, "S1/M/S9", new int[] {2, 1, 1}, Scene::some),
+        new Scene("all lost", 3, 3, 2, "M/R/P", new int[] {3, 2, 1}, Scene::allLost),
+        new Scene("told anew", 2, 2, 1, "W1234567/S0", new int[] {2, 1, 3}, Scene::toldAnew),
+        new Scene("most", 7, 4, 8, "W1234567/M/W1234", new int[] {3, 3, 3}, Scene::most));
+
+    private static void least(Asked a) {
+        a.ask("panel", 1, 1);
+        a.ask("card", 0, 5);
+        a.text("M");
+    }
+
+    private static void rows(Asked a, String... rows) {
+        for (int j = 0; j < rows.length; j++) {
+            a.ask("card", j, Due.row(rows[j]));
+        }
+    }
+
+    private static void lands(Asked a, String judges, String skaters) {
+        for (int j = 0; j < judges.length(); j++) {
+            a.ask("land", false, j, judges.charAt(j) - '0');
+        }
+        for (int s = 0; s < skaters.length(); s++) {
+            a.ask("land", true, s, skaters.charAt(s) - '0');
+        }
+    }
+
+    private static void some(Asked a) {
+        a.ask("panel", 4, 3);
+        rows(a, "531", "135", "224", "005");
+        lands(a, "1030", "013");
+        a.ask("keep");
+        a.ask("lose", 3, true);
+        a.rule(0, "M/R");
+        a.rule(1, "W1203");
+        a.text("S1/M/S9");
+    }
+
+    private static void allLost(Asked a) {
+        a.ask("panel", 3, 3);
+        rows(a, "520", "311", "045");
+        lands(a, "012", "011");
+        a.rule(0, "S1/P/W210");
+        a.rule(1, "R/S0");
+        a.rule(2, "M");
+        a.ask("keep");
+        for (int j = 0; j < 3; j++) {
+            a.ask("lose", j, true);
+        }
+        a.ask("keep");
+        a.text("M/R/P");
+    }
+
+    /** Rules of seven judges and a past card of them, but two judges now. */
+    private static void toldAnew(Asked a) {
+        a.ask("panel", 7, 4);
+        rows(a, "5432", "0123", "5050", "0505", "1212", "3333", "0001");
+        lands(a, "0123012", "0123");
+        a.ask("keep");
+        a.rule(0, "W9876543/R");
+        a.rule(2, "P/M/S1");
+        a.text("W1234567/S0");
+        a.ask("panel", 2, 2);
+        rows(a, "42", "15");
+        lands(a, "10", "01");
+    }
+
+    private static void most(Asked a) {
+        a.ask("panel", 7, 4);
+        rows(a, "5555", "3005", "1321", "0014", "4344", "1541", "0205");
+        lands(a, "0123013", "0321");
+        a.rule(0, "W9876543/R/P");
+        a.rule(1, "S3/M/P");
+        a.rule(2, "P/R/S1");
+        for (int i = 0; i < 8; i++) {
+            a.ask("keep");
+            a.ask("mark", i % 7, i % 4, i % 6);
+        }
+        a.text("W1234567/M/W1234");
+    }
+}
