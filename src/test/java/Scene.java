@@ -39,6 +39,9 @@ final class Scene {
     static final List<Scene> ALL = List.of(
         new Scene("new", 5, 3, 0, "", new int[] {1, 1, 1}, a -> { }),
         new Scene("least", 1, 1, 0, "M", new int[] {1, 1, 1}, Scene::least),
+        new Scene("one judge", 1, 4, 7, "S0/S1/S2/", new int[] {1, 3, 3}, Scene::oneJudge),
+        new Scene("one skater", 7, 1, 1, "", new int[] {1, 2, 1}, Scene::oneSkater),
+        new Scene("full text", 5, 3, 0, "W12345/W54321/S0", new int[] {3, 1, 3}, Scene::fullText),
         new Scene("some", 4, 3, 1, "S1/M/S9", new int[] {2, 1, 1}, Scene::some),
         new Scene("all lost", 3, 3, 2, "M/R/P", new int[] {3, 2, 1}, Scene::allLost),
         new Scene("told anew", 2, 2, 1, "W1234567/S0", new int[] {2, 1, 3}, Scene::toldAnew),
@@ -48,6 +51,40 @@ final class Scene {
         a.ask("panel", 1, 1);
         a.ask("card", 0, 5);
         a.text("M");
+    }
+
+    private static void oneJudge(Asked a) {
+        a.ask("panel", 1, 4);
+        rows(a, "1432");
+        lands(a, "2", "0212");
+        a.rule(1, "R/P/W9");
+        a.rule(2, "S1/M/P");
+        for (int i = 0; i < 7; i++) {
+            a.ask("keep");
+            a.ask("mark", 0, i % 4, 5 - i % 6);
+        }
+        a.text("S0/S1/S2/");
+    }
+
+    private static void oneSkater(Asked a) {
+        a.ask("panel", 7, 1);
+        rows(a, "0", "5", "1", "4", "2", "3", "3");
+        lands(a, "0123012", "1");
+        a.ask("keep");
+        a.ask("lose", 0, true);
+        a.ask("lose", 6, true);
+        a.rule(0, "S2");
+        a.rule(1, "W9090909/M");
+        a.rule(2, "R");
+        a.ask("wipe");
+    }
+
+    private static void fullText(Asked a) {
+        rows(a, "543", "354", "435", "120", "012");
+        lands(a, "01201", "012");
+        a.text("W12345/W54321/S0");
+        a.ask("rule", 0);
+        a.ask("rule", 2);
     }
 
     private static void rows(Asked a, String... rows) {
