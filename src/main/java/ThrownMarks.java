@@ -30,7 +30,6 @@ public final class ThrownMarks {
 
     public ThrownMarks() {
         now.begin(JUDGES_AT_FIRST, SKATERS_AT_FIRST);
-        draft.begin(JUDGES_AT_FIRST, SKATERS_AT_FIRST);
         for (int i = 0; i < RULES; i++) {
             schemes[i] = new Scheme();
         }

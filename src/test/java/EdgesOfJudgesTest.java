@@ -14,6 +14,7 @@ public final class EdgesOfJudgesTest {
         bendsByLesserPlaces();
         bentByAll();
         strikes();
+        strikesOfMany();
         moves();
         d.end();
     }
@@ -196,6 +197,27 @@ public final class EdgesOfJudgesTest {
         ThrownMarks z = Due.cards(2, "32", "32", "32", "32", "32", "02", "02");
         d.due("22 the greatest k", z.strike(), 3);
         d.due("22 rules are as they were", z.part(0, 0) + z.worth(0, 0, 0), 15);
+    }
+
+    /** How many bend S0 to S3, and the first k that the fewest bend; six and seven judges among them. */
+    private static void strikesOfMany() {
+        String[][] cards = {
+            {"504", "043", "043", "412", "113", "043", "502"},
+            {"050", "440", "414", "503", "120", "035", "004"},
+            {"33", "42", "53", "10", "23", "25", "10"},
+            {"20", "52", "13", "13", "51", "00", "13"},
+            {"535", "515", "041", "533", "004", "004", "004"},
+            {"144", "441", "430", "320", "112", "144", "144"}};
+        int[][] many = {{7, 6, 7, 7}, {7, 7, 7, 7}, {7, 7, 7, 6}, {7, 7, 6, 5}, {6, 6, 6, 7}, {6, 7, 6, 7}};
+        int[] due = {1, 0, 3, 3, 0, 0};
+        for (int i = 0; i < cards.length; i++) {
+            ThrownMarks x = Due.cards(cards[i][0].length(), cards[i]);
+            for (int k = 0; k < 4; k++) {
+                Due.rule(x, 1, "S" + k);
+                d.due("21 card " + i + ", S" + k, Integer.bitCount(x.bent(1)), many[i][k]);
+            }
+            d.due("22 card " + i, x.strike(), due[i]);
+        }
     }
 
     private static void moves() {

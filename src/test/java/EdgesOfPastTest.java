@@ -15,6 +15,7 @@ public final class EdgesOfPastTest {
         otherPanels();
         seldomAmongLost();
         leanerOfLikeOnes();
+        leanerOfThoseThatLeanAway();
         againEach();
         d.end();
     }
@@ -221,6 +222,24 @@ public final class EdgesOfPastTest {
         x.keep();
         d.due("34 the last two alike", x.leaner(), 5);
         d.due("34 they are", x.lean(5) - x.lean(6), 0);
+    }
+
+    /** Each land gives its own skater 0 and the other one 5, so that all seven lean by less than 0. */
+    private static void leanerOfThoseThatLeanAway() {
+        ThrownMarks x = Due.cards(2, "05", "05", "05", "05", "50", "50", "50");
+        x.land(true, 1, 1);
+        for (int j = 4; j < 7; j++) {
+            x.land(false, j, 1);
+        }
+        x.keep();
+        d.due("32 0 * 6 less three times 5", x.lean(3), -15);
+        d.due("32 0 * 6 less four times 5", x.lean(4), -20);
+        d.due("34 the least of four", x.leaner(), 0);
+        x.mark(5, 1, 4);
+        x.keep();
+        d.due("32 less three times 5, and again", x.lean(0), -30);
+        d.due("32 less four times 5, and 24 less four times 5", x.lean(5), -16);
+        d.due("34 one with less than 0", x.leaner(), 5);
     }
 
     private static void againEach() {

@@ -45,6 +45,7 @@ final class Scene {
         new Scene("some", 4, 3, 1, "S1/M/S9", new int[] {2, 1, 1}, Scene::some),
         new Scene("all lost", 3, 3, 2, "M/R/P", new int[] {3, 2, 1}, Scene::allLost),
         new Scene("told anew", 2, 2, 1, "W1234567/S0", new int[] {2, 1, 3}, Scene::toldAnew),
+        new Scene("told more", 5, 4, 1, "R", new int[] {1, 2, 1}, Scene::toldMore),
         new Scene("most", 7, 4, 8, "W1234567/M/W1234", new int[] {3, 3, 3}, Scene::most));
 
     private static void least(Asked a) {
@@ -137,9 +138,32 @@ final class Scene {
         a.rule(0, "W9876543/R");
         a.rule(2, "P/M/S1");
         a.text("W1234567/S0");
+        tries(a);
         a.ask("panel", 2, 2);
         rows(a, "42", "15");
         lands(a, "10", "01");
+    }
+
+    /** One judge and one skater before, so that nothing that was made for them may be looked at. */
+    private static void toldMore(Asked a) {
+        a.ask("panel", 1, 1);
+        a.ask("card", 0, 3);
+        a.rule(1, "W9/R");
+        a.ask("keep");
+        tries(a);
+        a.ask("panel", 5, 4);
+        rows(a, "5432", "0350", "4025", "1200", "1503");
+        lands(a, "01231", "1022");
+        a.ask("lose", 0, true);
+        a.rule(2, "R");
+    }
+
+    /** Calls that try other marks: what they tried is nothing to the calls behind them. */
+    private static void tries(Asked a) {
+        a.ask("could", 0, 0, 0);
+        a.ask("bloc", 0, 1, 0);
+        a.ask("rests", 0, true);
+        a.ask("place", 0, 0);
     }
 
     private static void most(Asked a) {
